@@ -213,37 +213,7 @@ public final class LastWords {
     }
 
     public int move() {
-        Quarrel quarrel = now.quarrel;
-        if (!quarrel.goesOn) {
-            return REFUSED;
-        }
-        for (int word = 0; word < now.corner.words; word++) {
-            if (quarrel.maySay(now.corner, word)) {
-                trial.copyFrom(quarrel);
-                trial.say(now.corner, word);
-                if (trialIsHadBy(quarrel.turn)) {
-                    return word;
-                }
-            }
-        }
-        if (quarrel.mayThrow()) {
-            trial.copyFrom(quarrel);
-            trial.throwPenny(now.corner);
-            if (trialIsHadBy(quarrel.turn)) {
-                return THROW;
-            }
-        }
-        return NONE;
-    }
-
-    private boolean trialIsHadBy(int side) {
-        if (!trial.goesOn) {
-            return trial.winner == side;
-        }
-        int mine = trial.myPurse();
-        int theirs = trial.theirPurse();
-        long wins = bestPlay.winners(now.corner, trial.verse, trial.left, trial.lasts(), mine + theirs);
-        return BestPlay.holds(wins, mine, theirs) == (trial.turn == side);
+        return now.quarrel.goesOn ? bestPlay.firstMove(now.corner, now.quarrel) : REFUSED;
     }
 
     public int enough(int side) {
@@ -546,7 +516,7 @@ public final class LastWords {
 
         /** The BEATS that a WORD takes for who said another, or this, last; one that is not told fits nowhere. */
         int cost(int word, int last) {
-            if (!hasWord(word)) {
+            if (word < 0 || word >= words || word >= MOST_WORDS) {
                 return TOO_LONG;
             }
             return word == last ? beats[word] + again : beats[word];
@@ -676,20 +646,18 @@ public final class LastWords {
             winner = 1 - turn;
         }
 
+        /** BY RULES till it is over; null: that SIDE is STILL. */
         void goByRules(Corner corner, Rule one, Rule other) {
             for (int i = 0; i < MOVES_BOUND && goesOn; i++) {
-                moveBy(corner, turn == 0 ? one : other);
-            }
-        }
-
-        private void moveBy(Corner corner, Rule rule) {
-            int choice = rule == null ? NONE : rule.choose(corner, this);
-            if (choice == NONE) {
-                beStill();
-            } else if (choice == THROW) {
-                throwPenny(corner);
-            } else {
-                say(corner, choice);
+                Rule rule = turn == 0 ? one : other;
+                int choice = rule == null ? NONE : rule.choose(corner, this);
+                if (choice == NONE) {
+                    beStill();
+                } else if (choice == THROW) {
+                    throwPenny(corner);
+                } else {
+                    say(corner, choice);
+                }
             }
         }
 
@@ -840,6 +808,9 @@ public final class LastWords {
         static final int TOO_LARGE = 3;
         static final int TOO_MANY = 4;
 
+        /** Added to the byte of a sign that a = follows, as one sign of both. */
+        static final int OR_EQUAL = 256;
+
         private static final int MOST_DIGITS = 5;
 
         private final int[] text;
@@ -847,50 +818,70 @@ public final class LastWords {
         private int start;
         private int stop;
         int kind;
+        int sign;
+        /** The NUMBER ahead; NONE if it has too many digits. */
+        int number;
         int fault;
 
         Reader(int[] text, int length) {
             this.text = text;
-            this.length = length;
+            this.length = Math.min(length, text.length);
         }
 
         /** Goes on to the next token. */
         void advance() {
             start = stop;
-            while (start < length && byteAt(start) == ' ') {
+            while (start < length && text[start] == ' ') {
                 start++;
             }
             stop = start;
-            int sign = byteAt(start);
-            if (sign == NONE) {
+            if (start >= length) {
                 kind = END;
-            } else if (isLetter(sign)) {
-                kind = NAME;
-                while (stop < length && isLetter(byteAt(stop))) {
-                    stop++;
-                }
-            } else if (isDigit(sign)) {
-                kind = NUMBER;
-                while (stop < length && isDigit(byteAt(stop))) {
-                    stop++;
-                }
+            } else if (isLetter(text[start])) {
+                passName();
+            } else if (isDigit(text[start])) {
+                passNumber();
             } else {
-                kind = SIGN;
-                boolean two = (sign == '<' || sign == '>') && byteAt(start + 1) == '=';
-                stop = two ? start + 2 : start + 1;
+                passSign(text[start]);
             }
         }
 
-        private int byteAt(int place) {
-            return place >= 0 && place < length && place < text.length ? text[place] : NONE;
+        private void passName() {
+            kind = NAME;
+            while (stop < length && isLetter(text[stop])) {
+                stop++;
+            }
         }
 
-        private static boolean isLetter(int sign) {
-            return sign >= 'a' && sign <= 'z';
+        private void passNumber() {
+            kind = NUMBER;
+            number = 0;
+            while (stop < length && isDigit(text[stop])) {
+                if (stop - start < MOST_DIGITS) {
+                    number = number * 10 + text[stop] - '0';
+                } else {
+                    number = NONE;
+                }
+                stop++;
+            }
         }
 
-        private static boolean isDigit(int sign) {
-            return sign >= '0' && sign <= '9';
+        private void passSign(int first) {
+            kind = SIGN;
+            sign = first;
+            stop = start + 1;
+            if ((first == '<' || first == '>') && stop < length && text[stop] == '=') {
+                sign = first + OR_EQUAL;
+                stop++;
+            }
+        }
+
+        private static boolean isLetter(int first) {
+            return first >= 'a' && first <= 'z';
+        }
+
+        private static boolean isDigit(int first) {
+            return first >= '0' && first <= '9';
         }
 
         /** A FAULT of the token ahead; only the first one counts. */
@@ -900,24 +891,31 @@ public final class LastWords {
             }
         }
 
-        boolean isName(String name) {
-            return kind == NAME && isText(name);
+        boolean isSign(int wanted) {
+            return kind == SIGN && sign == wanted;
         }
 
-        boolean isSign(String sign) {
-            return kind == SIGN && isText(sign);
-        }
-
-        private boolean isText(String wanted) {
-            if (stop - start != wanted.length()) {
-                return false;
+        /** Which of these names, set apart by blanks, is ahead: 0 for the first; NONE if none is. */
+        int nameAmong(String names) {
+            if (kind != NAME) {
+                return NONE;
             }
-            for (int i = 0; i < wanted.length(); i++) {
-                if (byteAt(start + i) != wanted.charAt(i)) {
-                    return false;
+            int which = 0;
+            int alike = 0;
+            for (int i = 0; i < names.length(); i++) {
+                if (names.charAt(i) == ' ') {
+                    if (alike == stop - start) {
+                        return which;
+                    }
+                    which++;
+                    alike = 0;
+                } else if (alike >= 0 && start + alike < stop && text[start + alike] == names.charAt(i)) {
+                    alike++;
+                } else {
+                    alike = NONE;
                 }
             }
-            return true;
+            return alike == stop - start ? which : NONE;
         }
 
         /** The NUMBER ahead, gone past, or NONE and its FAULT. */
@@ -926,25 +924,26 @@ public final class LastWords {
                 fail(MISPLACED);
                 return NONE;
             }
-            int value = hasFewDigits() ? digitsValue() : NONE;
-            if (value < least || value > most) {
+            if (number < least || number > most) {
                 fail(BAD_NUMBER);
                 return NONE;
             }
+            int taken = number;
             advance();
-            return value;
+            return taken;
         }
 
-        boolean hasFewDigits() {
-            return stop - start <= MOST_DIGITS;
-        }
-
-        private int digitsValue() {
-            int value = 0;
-            for (int place = start; place < stop; place++) {
-                value = value * 10 + byteAt(place) - '0';
+        /** Behind a CLAUSE: goes past the ; to the next one, if the text goes on. */
+        boolean goesOnToClause() {
+            if (fault != 0 || kind == END) {
+                return false;
             }
-            return value;
+            if (!isSign(';')) {
+                fail(MISPLACED);
+                return false;
+            }
+            advance();
+            return true;
         }
     }
 
@@ -967,16 +966,10 @@ public final class LastWords {
             corner.purses[0] = 0;
             corner.purses[1] = 0;
             in.advance();
-            for (int clauses = 0; clauses <= MOST_CLAUSES && in.fault == 0; clauses++) {
+            boolean goesOn = true;
+            for (int clauses = 0; clauses <= MOST_CLAUSES && goesOn; clauses++) {
                 readClause(clauses == MOST_CLAUSES);
-                if (in.fault != 0 || in.kind == Reader.END) {
-                    break;
-                }
-                if (in.isSign(";")) {
-                    in.advance();
-                } else {
-                    in.fail(Reader.MISPLACED);
-                }
+                goesOn = in.goesOnToClause();
             }
             if (corner.tunes == 0 || corner.words == 0) {
                 in.fail(Reader.MISPLACED);
@@ -986,16 +979,22 @@ public final class LastWords {
         }
 
         private void readClause(boolean isTooMany) {
-            if (in.isName("tune")) {
-                readTune(isTooMany);
-            } else if (in.isName("word")) {
-                readWord(isTooMany);
-            } else if (in.isName("purse")) {
-                readPurse(isTooMany);
-            } else if (in.isName("again")) {
-                readAgain(isTooMany);
-            } else {
-                in.fail(Reader.MISPLACED);
+            switch (in.nameAmong("tune word purse again")) {
+                case 0:
+                    readTune(isTooMany);
+                    break;
+                case 1:
+                    readWord(isTooMany);
+                    break;
+                case 2:
+                    readPurse(isTooMany);
+                    break;
+                case 3:
+                    readAgain(isTooMany);
+                    break;
+                default:
+                    in.fail(Reader.MISPLACED);
+                    break;
             }
         }
 
@@ -1181,7 +1180,8 @@ public final class LastWords {
 
     private static final class RuleReader {
         private static final int MOST_DEPTH = 10;
-        private static final int NO_CODE = 0;
+        private static final int NO_CODE = -100;
+        private static final String OWN_WORDS = "side left verse mine theirs last heard said moves";
 
         private final Reader in;
         private final Rule rule;
@@ -1196,33 +1196,27 @@ public final class LastWords {
         int read() {
             rule.clear();
             in.advance();
-            for (int clauses = 0; clauses <= Rule.MOST_CLAUSES && in.fault == 0; clauses++) {
+            boolean goesOn = true;
+            for (int clauses = 0; clauses <= Rule.MOST_CLAUSES && goesOn; clauses++) {
                 readClause(clauses == Rule.MOST_CLAUSES);
-                if (in.fault != 0 || in.kind == Reader.END) {
-                    break;
-                }
-                if (in.isSign(";")) {
-                    in.advance();
-                } else {
-                    in.fail(Reader.MISPLACED);
-                }
+                goesOn = in.goesOnToClause();
             }
             return in.fault;
         }
 
         private void readClause(boolean isTooMany) {
-            boolean isSaying = in.isName("say");
-            int deed = in.isName("throw") ? THROW : NONE;
-            if (!isSaying && deed == NONE && !in.isName("still")) {
+            int name = in.nameAmong("say throw still");
+            if (name == NONE) {
                 in.fail(Reader.MISPLACED);
             } else if (isTooMany) {
                 in.fail(Reader.TOO_MANY);
             } else {
                 in.advance();
-                if (isSaying) {
+                int deed = name == 1 ? THROW : NONE;
+                if (name == 0) {
                     deed = in.takeNumber(0, MOST_WORDS - 1);
                 }
-                if (in.fault == 0 && in.isName("if")) {
+                if (in.fault == 0 && in.nameAmong("if") == 0) {
                     in.advance();
                     readTest(0);
                 }
@@ -1230,57 +1224,37 @@ public final class LastWords {
             }
         }
 
+        /** FACTS of a PART are joined at once, a PART to those before it when the next one begins. */
         private void readTest(int depth) {
-            readPart(depth);
-            for (int i = 0; i < TAPE_SIZE && in.fault == 0 && in.isName("or"); i++) {
-                in.advance();
-                readPart(depth);
-                rule.put(Rule.OR);
-            }
-        }
-
-        private void readPart(int depth) {
-            readFact(depth);
-            for (int i = 0; i < TAPE_SIZE && in.fault == 0 && in.isName("and"); i++) {
-                in.advance();
+            boolean isAndOpen = false;
+            boolean isOrOpen = false;
+            for (int i = 0; i < TAPE_SIZE && in.fault == 0; i++) {
                 readFact(depth);
-                rule.put(Rule.AND);
+                if (isAndOpen) {
+                    rule.put(Rule.AND);
+                }
+                int joint = in.nameAmong("and or");
+                isAndOpen = joint == 0;
+                if (!isAndOpen) {
+                    if (isOrOpen) {
+                        rule.put(Rule.OR);
+                    }
+                    isOrOpen = joint == 1;
+                }
+                if (!isAndOpen && !isOrOpen) {
+                    return;
+                }
+                in.advance();
             }
         }
 
         private void readFact(int depth) {
-            boolean isNot = in.isName("not");
-            if (!isNot && !in.isSign("[")) {
-                readComparison();
-            } else if (depth >= MOST_DEPTH) {
-                in.fail(Reader.TOO_DEEP);
-            } else if (isNot) {
-                in.advance();
-                readFact(depth + 1);
-                rule.put(Rule.NOT);
-            } else {
-                in.advance();
-                readTest(depth + 1);
-                passClosing();
-            }
-        }
-
-        private void passClosing() {
-            if (in.fault != 0) {
+            boolean isNot = in.nameAmong("not") == 0;
+            if (isNot || in.isSign('[')) {
+                readNested(depth, isNot);
                 return;
             }
-            if (in.isSign("]")) {
-                in.advance();
-            } else {
-                in.fail(Reader.MISPLACED);
-            }
-        }
-
-        private void readComparison() {
             readSum();
-            if (in.fault != 0) {
-                return;
-            }
             int code = comparisonAhead();
             if (code == NO_CODE) {
                 in.fail(Reader.MISPLACED);
@@ -1291,69 +1265,88 @@ public final class LastWords {
             }
         }
 
-        private int comparisonAhead() {
-            if (in.isSign("<")) {
-                return Rule.LESS;
-            }
-            if (in.isSign("<=")) {
-                return Rule.AT_MOST;
-            }
-            if (in.isSign("=")) {
-                return Rule.EQUAL;
-            }
-            if (in.isSign(">=")) {
-                return Rule.AT_LEAST;
-            }
-            return in.isSign(">") ? Rule.MORE : NO_CODE;
-        }
-
-        private void readSum() {
-            readTerm();
-            for (int i = 0; i < TAPE_SIZE && in.fault == 0; i++) {
-                boolean isPlus = in.isSign("+");
-                if (!isPlus && !in.isSign("-")) {
-                    break;
-                }
-                in.advance();
-                readTerm();
-                rule.put(isPlus ? Rule.ADD : Rule.SUBTRACT);
-            }
-        }
-
-        private void readTerm() {
-            readValue();
-            for (int i = 0; i < TAPE_SIZE && in.fault == 0; i++) {
-                boolean isTimes = in.isSign("*");
-                if (!isTimes && !in.isSign("/")) {
-                    break;
-                }
-                in.advance();
-                readValue();
-                rule.put(isTimes ? Rule.MULTIPLY : Rule.DIVIDE);
-            }
-        }
-
-        private void readValue() {
-            if (in.kind == Reader.NUMBER) {
-                readNumber();
+        private void readNested(int depth, boolean isNot) {
+            if (depth >= MOST_DEPTH) {
+                in.fail(Reader.TOO_DEEP);
                 return;
             }
-            int code = ownWordAhead();
-            if (code == NO_CODE) {
+            in.advance();
+            if (isNot) {
+                readFact(depth + 1);
+                rule.put(Rule.NOT);
+                return;
+            }
+            readTest(depth + 1);
+            if (in.isSign(']')) {
+                in.advance();
+            } else {
                 in.fail(Reader.MISPLACED);
-            } else if (isRoomForNode()) {
-                rule.put(code);
+            }
+        }
+
+        private int comparisonAhead() {
+            switch (in.kind == Reader.SIGN ? in.sign : NONE) {
+                case '<':
+                    return Rule.LESS;
+                case '<' + Reader.OR_EQUAL:
+                    return Rule.AT_MOST;
+                case '=':
+                    return Rule.EQUAL;
+                case '>' + Reader.OR_EQUAL:
+                    return Rule.AT_LEAST;
+                case '>':
+                    return Rule.MORE;
+                default:
+                    return NO_CODE;
+            }
+        }
+
+        /** VALUES of a TERM are joined at once, a TERM to those before it when the next one begins. */
+        private void readSum() {
+            int timesOpen = NO_CODE;
+            int plusOpen = NO_CODE;
+            for (int i = 0; i < TAPE_SIZE && in.fault == 0; i++) {
+                rule.put(valueAhead());
+                in.advance();
+                if (timesOpen != NO_CODE) {
+                    rule.put(timesOpen);
+                }
+                timesOpen = codeOfSign('*', Rule.MULTIPLY, '/', Rule.DIVIDE);
+                if (timesOpen == NO_CODE) {
+                    if (plusOpen != NO_CODE) {
+                        rule.put(plusOpen);
+                    }
+                    plusOpen = codeOfSign('+', Rule.ADD, '-', Rule.SUBTRACT);
+                }
+                if (timesOpen == NO_CODE && plusOpen == NO_CODE) {
+                    return;
+                }
                 in.advance();
             }
         }
 
-        private void readNumber() {
-            // Of one place the least FAULT counts: too many digits come before one value too many.
-            if (!in.hasFewDigits()) {
-                in.fail(Reader.BAD_NUMBER);
-            } else if (isRoomForNode()) {
-                rule.put(in.takeNumber(0, 99999));
+        private int codeOfSign(int sign, int code, int otherSign, int otherCode) {
+            if (in.isSign(sign)) {
+                return code;
             }
+            return in.isSign(otherSign) ? otherCode : NO_CODE;
+        }
+
+        /** The code of the VALUE ahead; of one place the least FAULT comes first. */
+        private int valueAhead() {
+            int own = in.nameAmong(OWN_WORDS);
+            if (in.kind != Reader.NUMBER && own == NONE) {
+                in.fail(Reader.MISPLACED);
+                return NO_CODE;
+            }
+            if (in.kind == Reader.NUMBER && in.number == NONE) {
+                in.fail(Reader.BAD_NUMBER);
+                return NO_CODE;
+            }
+            if (!isRoomForNode()) {
+                return NO_CODE;
+            }
+            return own == NONE ? in.number : Rule.SIDE - own;
         }
 
         private boolean isRoomForNode() {
@@ -1363,34 +1356,6 @@ public final class LastWords {
                 return false;
             }
             return true;
-        }
-
-        private int ownWordAhead() {
-            if (in.isName("side")) {
-                return Rule.SIDE;
-            }
-            if (in.isName("left")) {
-                return Rule.LEFT;
-            }
-            if (in.isName("verse")) {
-                return Rule.VERSE;
-            }
-            if (in.isName("mine")) {
-                return Rule.MINE;
-            }
-            if (in.isName("theirs")) {
-                return Rule.THEIRS;
-            }
-            if (in.isName("last")) {
-                return Rule.LAST;
-            }
-            if (in.isName("heard")) {
-                return Rule.HEARD;
-            }
-            if (in.isName("said")) {
-                return Rule.SAID;
-            }
-            return in.isName("moves") ? Rule.MOVES : NO_CODE;
         }
     }
 
@@ -1412,8 +1377,14 @@ public final class LastWords {
         private final long[] atMost = new long[PENNIES_IN_ALL + 1];
         // Of who moves: the purses with which he cannot HAVE it, as the other one sees them.
         private final long[] lost = new long[SUMS_KEPT * LASTS * LASTS];
+        private final int[] placesAfter = new int[MOST_WORDS];
+        private final long[] pursesAfter = new long[MOST_WORDS];
+        private int fitting;
         private Corner corner;
         private int verse;
+        private int mineLast;
+        private int theirLast;
+        private int fromKind;
         private int kinds;
 
         BestPlay() {
@@ -1430,28 +1401,63 @@ public final class LastWords {
 
         /** The purses, of so many pennies together at most, with which who moves can HAVE it. */
         long winners(Corner ofCorner, int ofVerse, int left, int lasts, int pennies) {
-            corner = ofCorner;
-            verse = Math.max(1, ofVerse);
-            kinds = corner.again == 0 ? 1 : corner.words + 1;
-            int mine = kinds == 1 ? 0 : lasts / 8;
-            int theirs = kinds == 1 ? 0 : lasts % 8;
+            prepare(ofCorner, ofVerse, lasts);
             long found = 0;
             for (int sum = 0; sum <= left + verse * pennies; sum++) {
                 fillSum(sum);
                 if (sum >= left && (sum - left) % verse == 0) {
-                    int thrown = (sum - left) / verse;
-                    long exactly = purses(thrown) & ~purses(thrown - 1);
-                    found |= ~swapped(lost[placeOf(sum, mine, theirs)]) & exactly;
+                    int together = (sum - left) / verse;
+                    found |= winnersOf(sum) & purses(together) & ~purses(together - 1);
                 }
             }
             return found;
         }
 
+        /** The first WORD, or THROW, by which who moves can HAVE it; NONE if there is none. */
+        int firstMove(Corner ofCorner, Quarrel quarrel) {
+            prepare(ofCorner, quarrel.verse, quarrel.lasts());
+            int mine = quarrel.myPurse();
+            int theirs = quarrel.theirPurse();
+            int top = quarrel.left + verse * (mine + theirs);
+            for (int sum = 0; sum <= top; sum++) {
+                fillSum(sum);
+            }
+            for (int word = 0; word < corner.words; word++) {
+                if (quarrel.maySay(corner, word)) {
+                    int place = placeOf(top - corner.cost(word, mineLast - 1), theirLast, kindOf(word));
+                    if (holds(lost[place], mine, theirs)) {
+                        return word;
+                    }
+                }
+            }
+            return quarrel.mayThrow() && holds(winnersOf(top), mine - 1, theirs) ? THROW : NONE;
+        }
+
+        private void prepare(Corner ofCorner, int ofVerse, int lasts) {
+            corner = ofCorner;
+            verse = Math.max(1, ofVerse);
+            // Where a WORD said again takes nothing more, what was said last is all one.
+            kinds = corner.again == 0 ? 1 : Math.min(corner.words + 1, LASTS);
+            mineLast = Math.min(lasts / 8, kinds - 1);
+            theirLast = Math.min(lasts % 8, kinds - 1);
+            // Who has spoken once never comes back to having said nothing.
+            fromKind = mineLast > 0 && theirLast > 0 ? 1 : 0;
+        }
+
+        private int kindOf(int word) {
+            return kinds == 1 ? 0 : word + 1;
+        }
+
+        private long winnersOf(int sum) {
+            return ~swapped(lost[placeOf(sum, mineLast, theirLast)]);
+        }
+
         private void fillSum(int sum) {
             long standing = purses(sum / verse) & ~tooLong(sum);
-            for (int mine = 0; mine < kinds; mine++) {
-                for (int theirs = 0; theirs < kinds; theirs++) {
-                    long wins = withThrows(bySpeaking(sum, mine, theirs) & standing) & standing;
+            for (int mine = fromKind; mine < kinds; mine++) {
+                gatherWords(sum, mine);
+                for (int theirs = fromKind; theirs < kinds; theirs++) {
+                    long wins = withThrows(bySpeaking(theirs) & standing) & standing;
                     lost[placeOf(sum, mine, theirs)] = swapped(~wins);
                 }
             }
@@ -1462,14 +1468,23 @@ public final class LastWords {
             return sum > MOST_LEFT ? purses((sum - MOST_LEFT - 1) / verse) : 0;
         }
 
-        private long bySpeaking(int sum, int mine, int theirs) {
-            long wins = 0;
-            for (int word = 0; word < corner.words; word++) {
+        /** Where the WORDS that fit lead to, and with which purses they do fit. */
+        private void gatherWords(int sum, int mine) {
+            fitting = 0;
+            for (int word = 0; word < corner.words && word < MOST_WORDS; word++) {
                 int rest = sum - corner.cost(word, mine - 1);
                 if (rest >= 0) {
-                    int said = kinds == 1 ? 0 : word + 1;
-                    wins |= lost[placeOf(rest, theirs, said)] & purses(rest / verse);
+                    placesAfter[fitting] = placeOf(rest, 0, kindOf(word));
+                    pursesAfter[fitting] = purses(rest / verse);
+                    fitting++;
                 }
+            }
+        }
+
+        private long bySpeaking(int theirs) {
+            long wins = 0;
+            for (int i = 0; i < fitting; i++) {
+                wins |= lost[placesAfter[i] + theirs * LASTS] & pursesAfter[i];
             }
             return wins;
         }
@@ -1485,14 +1500,12 @@ public final class LastWords {
             if (together < 0) {
                 return 0;
             }
-            return atMost[Math.min(together, PENNIES_IN_ALL)];
+            return atMost[together < PENNIES_IN_ALL ? together : PENNIES_IN_ALL];
         }
 
+        /** Each of mine and theirs below LASTS. */
         private static int placeOf(int sum, int mine, int theirs) {
-            int kept = sum & (SUMS_KEPT - 1);
-            int last = Math.max(0, Math.min(mine, LASTS - 1));
-            int heard = Math.max(0, Math.min(theirs, LASTS - 1));
-            return (kept * LASTS + last) * LASTS + heard;
+            return ((sum & (SUMS_KEPT - 1)) * LASTS + mine) * LASTS + theirs;
         }
 
         /** The row with mine and theirs exchanged: an 8 by 8 square of bits turned over its diagonal. */
@@ -1509,7 +1522,7 @@ public final class LastWords {
     /** Counts plays move by move; what was counted is kept, for many plays meet in one position. */
     private static final class PlayCounter {
         static final int MOST_MOVES = 8;
-        private static final int SLOT_BITS = 12;
+        private static final int SLOT_BITS = 11;
 
         private final int[] keys = new int[1 << SLOT_BITS];
         private final int[] totals = new int[1 << SLOT_BITS];
