@@ -8,6 +8,7 @@ public final class BestPlayTest {
         hidden();
         fair();
         bribe();
+        largestBribes();
         plays();
         nothingChanges();
         Asker.finish("BestPlayTest");
@@ -83,14 +84,15 @@ public final class BestPlayTest {
         x.begin(1, 0);
         due("even, first has the penny", x.have(), 1);
         due("no move", x.move(), -1);
-        x = at("tune 5 8;tune 1 1;word 1;word 9;purse 0 7");
+        // A verse is five words, so each penny turns who has it: side 0, with more pennies, does.
+        x = at("tune 5 8;word 8;purse 0 7;purse 1 2");
         x.begin(0, 0);
         for (int i = 0; i < 3; i++) {
             x.toss();
         }
+        due("160 left: to throw can wait", x.move(), 0);
         due("160 left, 40 more are 200", x.toss(), 200);
-        due("200 left", x.count(3), 200);
-        due("who has it", x.have(), 1);
+        due("200 left", x.have(), 0);
     }
 
     private static void withAgain() {
@@ -184,6 +186,15 @@ public final class BestPlayTest {
         due("no need", x.bribe(1), 0);
     }
 
+    private static void largestBribes() {
+        LastWords x = at("tune 2 4;word 6;purse 1 7;again 8");
+        x.begin(0, 0);
+        due("20 more", x.bribe(0), 20);
+        x = at("tune 8 3;word 2;word 5;purse 0 3;purse 1 4;again 1");
+        x.begin(0, 1);
+        due("20 less", x.bribe(0), -20);
+    }
+
     private static void plays() {
         LastWords x = at("tune 1 2;word 1;word 2;purse 0 1");
         x.begin(0, 0);
@@ -200,6 +211,13 @@ public final class BestPlayTest {
         // say 0, say 0, still (none left, but a penny).
         due("plays(3, 0, 1)", x.plays(3, 0, 1), 2);
         due("plays(3, 2, 1)", x.plays(3, 2, 1), 0);
+        LastWords wide = at("tune 5 8;word 9;purse 0 7");
+        wide.begin(0, 0);
+        wide.toss();
+        wide.toss();
+        wide.toss();
+        due("160 left: a fourth throw and still", wide.plays(2, 1, 1), 1);
+        due("200 left then: no fifth one", wide.plays(8, 2, 1), wide.plays(8, 2, 0) + wide.plays(8, 2, 1));
         // What is in the hat already does not count.
         x.toss();
         due("plays(1, 0, 1) behind a throw", x.plays(1, 0, 1), 1);

@@ -211,7 +211,21 @@ public final class FuzzTest {
         return (rarely(40) ? "0".repeat(below(6)) : "") + n;
     }
 
+    /** Long verses, long words and many pennies: what is left comes near to 200. */
+    private String wideCornerText() {
+        String[] verses = {"9 8", "5 8", "5 5", "8 8", "9 7", "5 4", "4 8", "6 8"};
+        StringBuilder text = new StringBuilder("tune " + verses[below(8)] + ";tune " + verses[below(8)]);
+        for (int i = below(3); i >= 0; i--) {
+            text.append(";word ").append(5 + below(5));
+        }
+        text.append(";purse 0 ").append(3 + below(5)).append(";purse 1 ").append(3 + below(5));
+        return text.append(rarely(2) ? "" : ";again " + below(4)).toString();
+    }
+
     private String cornerText() {
+        if (rarely(6)) {
+            return wideCornerText();
+        }
         List<String> clauses = new ArrayList<>();
         int tunes = rarely(60) ? 5 : 1 + below(4);
         int words = rarely(60) ? 5 : 1 + below(4);

@@ -133,6 +133,10 @@ public final class TextsTest {
         cornerFault("; tune 1 1", 0, 0);
         cornerFault("tunes 1 1", 0, 0);
         cornerFault("tun 1 1", 0, 0);
+        cornerFault("tunez 1 1", 0, 0);
+        cornerFault("tunea 1 1", 0, 0);
+        cornerFault("tune{1 1", 4, 0);
+        cornerFault("tune`1 1", 4, 0);
         cornerFault(" Tune 1 1", 1, 0);
         cornerFault("tune x 1", 5, 0);
         cornerFault("tune -1 1", 5, 0);
