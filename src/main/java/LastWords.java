@@ -595,13 +595,9 @@ public final class LastWords {
             return purse[1 - turn];
         }
 
-        /** What each SIDE said last, as BestPlay and PlayCounter take it. */
+        /** What each SIDE said last, 0 for nothing, mine 8 times: as BestPlay and PlayCounter take it. */
         int lasts() {
-            return packLasts(last[turn], last[1 - turn]);
-        }
-
-        static int packLasts(int mine, int theirs) {
-            return 8 * (mine + 1) + theirs + 1;
+            return 8 * (last[turn] + 1) + last[1 - turn] + 1;
         }
 
         boolean maySay(Corner corner, int word) {

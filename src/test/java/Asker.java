@@ -5,6 +5,13 @@ final class Asker {
 
     final LastWords words = new LastWords();
 
+    /** One with a corner. */
+    static Asker at(String corner) {
+        Asker a = new Asker();
+        due("corner <" + corner + ">", Math.min(a.corner(corner), 1), 1);
+        return a;
+    }
+
     static void due(String what, int got, int want) {
         asked++;
         if (got != want) {

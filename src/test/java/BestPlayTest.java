@@ -19,9 +19,7 @@ public final class BestPlayTest {
     }
 
     private static LastWords at(String corner) {
-        Asker a = new Asker();
-        Asker.due("corner <" + corner + ">", Math.min(a.corner(corner), 1), 1);
-        return a.words;
+        return Asker.at(corner).words;
     }
 
     private static void without() {

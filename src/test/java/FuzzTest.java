@@ -4,7 +4,7 @@ import java.util.Random;
 
 /** Runs of calls by chance (always the same ones), each answer held against Model's. */
 public final class FuzzTest {
-    private static final int RUNS = 1200;
+    private static final int RUNS = 800;
     private static final int CALLS = 160;
 
     private final Random random;

@@ -15,14 +15,8 @@ public final class OrganTest {
         Asker.due(what, got, want);
     }
 
-    private static Asker at(String corner) {
-        Asker a = new Asker();
-        Asker.due("corner <" + corner + ">", Math.min(a.corner(corner), 1), 1);
-        return a;
-    }
-
     private static void waiting() {
-        LastWords x = at("tune 1 1;word 1").words;
+        LastWords x = Asker.at("tune 1 1;word 1").words;
         due("waits(0, 0)", x.waits(0, 0), -2);
         due("waits(1000, 0)", x.waits(1000, 0), -2);
         due("waits(1, -1)", x.waits(1, -1), -2);
@@ -47,7 +41,7 @@ public final class OrganTest {
     }
 
     private static void ordering() {
-        LastWords x = at("tune 1 1;word 1").words;
+        LastWords x = Asker.at("tune 1 1;word 1").words;
         due("order(7)", x.order(7), -1);
         due("order(-1)", x.order(-1), -1);
         orderIs(x, 0);
@@ -87,7 +81,7 @@ public final class OrganTest {
     }
 
     private static void lotsByRules() {
-        Asker a = at("tune 1 1;tune 1 2;tune 1 3;word 9;word 1;purse 0 4");
+        Asker a = Asker.at("tune 1 1;tune 1 2;tune 1 3;word 9;word 1;purse 0 4");
         LastWords x = a.words;
         due("rule 0", a.rule("throw;still"), 0);
         due("rule 1", a.rule("say 1"), 1);
@@ -147,7 +141,7 @@ public final class OrganTest {
     }
 
     private static void lotsByBestPlay() {
-        LastWords x = at("tune 1 1;tune 1 2;tune 1 3;word 1").words;
+        LastWords x = Asker.at("tune 1 1;tune 1 2;tune 1 3;word 1").words;
         seed = 42;
         x.seed(42);
         int[] want = new int[3];
@@ -167,7 +161,7 @@ public final class OrganTest {
     }
 
     private static void counts() {
-        Asker a = at("tune 1 6;tune 2 6;word 1;word 2;word 3;purse 0 2");
+        Asker a = Asker.at("tune 1 6;tune 2 6;word 1;word 2;word 3;purse 0 2");
         LastWords x = a.words;
         a.rule("still");
         x.seed(9);
@@ -187,7 +181,7 @@ public final class OrganTest {
     }
 
     private static void images() {
-        Asker a = at("tune 1 6;word 1;word 2;purse 0 2;purse 1 1");
+        Asker a = Asker.at("tune 1 6;word 1;word 2;purse 0 2;purse 1 1");
         LastWords x = a.words;
         due("image(4)", x.image(4), -1);
         due("image(-1)", x.image(-1), -1);

@@ -16,14 +16,8 @@ public final class QuarrelTest {
         Asker.due(what, got, want);
     }
 
-    private static Asker at(String corner) {
-        Asker a = new Asker();
-        Asker.due("corner <" + corner + ">", Math.min(a.corner(corner), 1), 1);
-        return a;
-    }
-
     private static void beginning() {
-        LastWords x = at("tune 2 3;tune 1 1;word 2;purse 1 1").words;
+        LastWords x = Asker.at("tune 2 3;tune 1 1;word 2;purse 1 1").words;
         due("begin(2, 0)", x.begin(2, 0), -1);
         due("begin(-1, 0)", x.begin(-1, 0), -1);
         due("begin(0, 2)", x.begin(0, 2), -1);
@@ -54,7 +48,7 @@ public final class QuarrelTest {
     }
 
     private static void speaking() {
-        LastWords x = at("tune 2 3;word 2;word 3;again 1;purse 0 1").words;
+        LastWords x = Asker.at("tune 2 3;word 2;word 3;again 1;purse 0 1").words;
         due("speak, no quarrel", x.speak(0), -2);
         due("speak(2), no quarrel", x.speak(2), -1);
         x.begin(0, 0);
@@ -88,7 +82,7 @@ public final class QuarrelTest {
     }
 
     private static void throwing() {
-        LastWords x = at("tune 5 8;tune 9 8;word 1;purse 0 7").words;
+        LastWords x = Asker.at("tune 5 8;tune 9 8;word 1;purse 0 7").words;
         due("toss, no quarrel", x.toss(), -2);
         x.begin(0, 0);
         for (int left = 80; left <= 200; left += 40) {
@@ -104,7 +98,7 @@ public final class QuarrelTest {
         due("72 more", x.toss(), 144);
         due("216", x.toss(), -2);
         // Throwing may end it too: two beats are still too few for the word, and no penny is left.
-        x = at("tune 1 1;word 9;purse 1 1").words;
+        x = Asker.at("tune 1 1;word 9;purse 1 1").words;
         x.begin(0, 1);
         due("toss", x.toss(), 2);
         due("over", x.count(4), -1);
@@ -112,7 +106,7 @@ public final class QuarrelTest {
     }
 
     private static void beingStill() {
-        LastWords x = at("tune 1 4;word 1;purse 0 2").words;
+        LastWords x = Asker.at("tune 1 4;word 1;purse 0 2").words;
         due("still, no quarrel", x.still(), -2);
         x.begin(0, 0);
         due("nobody spoke", x.still(), 1);
@@ -135,7 +129,7 @@ public final class QuarrelTest {
     }
 
     private static void filling() {
-        LastWords x = at("tune 1 1;word 2;purse 0 1").words;
+        LastWords x = Asker.at("tune 1 1;word 2;purse 0 1").words;
         due("fill(2, 1)", x.fill(2, 1), -1);
         due("fill(0, 8)", x.fill(0, 8), -1);
         due("fill(0, -1)", x.fill(0, -1), -1);
@@ -154,7 +148,7 @@ public final class QuarrelTest {
     }
 
     private static void running() {
-        Asker a = at("tune 1 5;word 2;word 3;purse 1 1");
+        Asker a = Asker.at("tune 1 5;word 2;word 3;purse 1 1");
         LastWords x = a.words;
         due("rule 0", a.rule("say 3;say 0"), 0);
         due("rule 1", a.rule("throw if left<2;say 1;say 0"), 1);
@@ -202,7 +196,7 @@ public final class QuarrelTest {
 
     /** Whether a test holds as a quarrel begins: then word 1 (3 beats of 10) is said, else word 0 (2 beats). */
     private static void holds(String test, boolean want) {
-        Asker a = at("tune 2 5;word 2;word 3;purse 0 2;purse 1 3");
+        Asker a = Asker.at("tune 2 5;word 2;word 3;purse 0 2;purse 1 3");
         due("rule <" + test + ">", a.rule("say 1 if " + test + ";say 0"), 0);
         a.words.begin(0, 0);
         due("test <" + test + ">", a.words.would(0, -1, 3), want ? 7 : 8);
@@ -210,7 +204,7 @@ public final class QuarrelTest {
 
     private static void ownWords() {
         holds("side=0 and left=10 and verse=10 and mine=2 and theirs=3 and last=9 and heard=9 and said=0 and moves=0", true);
-        Asker a = at("tune 2 5;word 2;word 3;purse 0 2;purse 1 3");
+        Asker a = Asker.at("tune 2 5;word 2;word 3;purse 0 2;purse 1 3");
         String facts = "side=1 and left=12 and verse=10 and mine=2 and theirs=2 and last=1 and heard=0 and said=1 and moves=4";
         due("rule", a.rule("say 1 if " + facts + ";say 0"), 0);
         due("rule", a.rule("say 1 if side=0;say 1 if not left=12;say 1 if mine=3 or theirs=3 or last=9 or heard=9;say 0"), 1);
@@ -227,7 +221,7 @@ public final class QuarrelTest {
         // 10 - 2 + 10 - 3 - 2 = 13 with four moves: one beat too many for the facts.
         due("left", x.count(3), 13);
         due("facts do not hold", x.would(-1, 0, 3), 11);
-        a = at("tune 2 5;word 2;word 3;word 1;purse 0 2;purse 1 3");
+        a = Asker.at("tune 2 5;word 2;word 3;word 1;purse 0 2;purse 1 3");
         due("rule", a.rule("say 1 if " + facts + ";say 0"), 0);
         x = a.words;
         x.begin(0, 0);
