@@ -165,7 +165,7 @@ public final class LastWords {
     }
 
     public int side(int side, int what) {
-        if (!isSide(side)) {
+        if (!isSide(side) || !hasCorner()) {
             return NONE;
         }
         switch (what) {
@@ -183,7 +183,7 @@ public final class LastWords {
     }
 
     public int fill(int side, int n) {
-        if (!isSide(side) || !isPurse(n) || now.corner.tunes == 0) {
+        if (!isSide(side) || !isPurse(n) || !hasCorner()) {
             return NONE;
         }
         int before = now.quarrel.purse[side];
@@ -270,7 +270,7 @@ public final class LastWords {
     }
 
     public int fair(int what) {
-        if (what < 0 || what > 3 || now.corner.tunes == 0) {
+        if (what < 0 || what > 3 || !hasCorner()) {
             return NONE;
         }
         int zero = now.quarrel.purse[0];
@@ -332,14 +332,11 @@ public final class LastWords {
     }
 
     public int waits(int beats, int worth) {
-        if (now.corner.tunes == 0) {
-            return REFUSED;
-        }
         if (beats == NONE) {
             now.organ.waiting = 0;
             return 0;
         }
-        if (beats < 1 || beats > 999 || worth < 0 || worth > 99 || !now.organ.add(beats, worth)) {
+        if (!hasCorner() || beats < 1 || beats > 999 || worth < 0 || worth > 99 || !now.organ.add(beats, worth)) {
             return REFUSED;
         }
         return now.organ.waiting;
@@ -370,7 +367,7 @@ public final class LastWords {
         if (!byBestPlay && (ruleAt(one) == null || ruleAt(other) == null)) {
             return NONE;
         }
-        if (m < 1 || m > 50 || !isPurse(p) || what < 0 || what > 2 || now.corner.tunes == 0) {
+        if (m < 1 || m > 50 || !isPurse(p) || what < 0 || what > 2 || !hasCorner()) {
             return NONE;
         }
         lot.x = now.x;
@@ -472,6 +469,10 @@ public final class LastWords {
 
     private boolean isRuleOrNone(int number) {
         return number == NONE || ruleAt(number) != null;
+    }
+
+    private boolean hasCorner() {
+        return now.corner.tunes > 0;
     }
 
     private static boolean isSide(int side) {

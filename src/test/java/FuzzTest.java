@@ -61,7 +61,7 @@ public final class FuzzTest {
 
     private boolean step() {
         int kind = below(100);
-        if (x.count(0) == 0 && kind > 10 || kind < 2) {
+        if (kind < 2 || x.count(0) == 0 && rarely(6)) {
             return text(cornerText(), true);
         }
         if (kind < 6) {

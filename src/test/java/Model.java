@@ -563,7 +563,7 @@ final class Model {
     }
 
     int side(int side, int what) {
-        if (!in(side, 0, 1) || !in(what, 0, 3)) {
+        if (corner == null || !in(side, 0, 1) || !in(what, 0, 3)) {
             return -1;
         }
         return new int[] {q.purse[side], q.last[side], q.said[side], won[side]}[what];
@@ -680,14 +680,11 @@ final class Model {
     }
 
     int waits(int beats, int worth) {
-        if (corner == null) {
-            return -2;
-        }
         if (beats == -1) {
             waiting = new ArrayList<>();
             return 0;
         }
-        if (!in(beats, 1, 999) || !in(worth, 0, 99) || waiting.size() == 6) {
+        if (corner == null || !in(beats, 1, 999) || !in(worth, 0, 99) || waiting.size() == 6) {
             return -2;
         }
         waiting = new ArrayList<>(waiting);

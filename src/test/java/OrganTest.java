@@ -233,5 +233,8 @@ public final class OrganTest {
         due("back to nothing", b.words.back(1), 0);
         due("no corner", b.words.begin(0, 0), -1);
         due("no tunes", b.words.count(0), 0);
+        due("no sides", b.words.side(0, 3), -1);
+        due("nobody can wait", b.words.waits(1, 1), -2);
+        due("nobody waits", b.words.waits(-1, 0), 0);
     }
 }

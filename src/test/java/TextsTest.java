@@ -38,11 +38,15 @@ public final class TextsTest {
         due("new: fill", x.fill(0, 1), -1);
         due("new: fair", x.fair(0), -1);
         due("new: waits", x.waits(1, 1), -2);
-        due("new: waits NONE", x.waits(-1, 0), -2);
+        due("new: nobody waits", x.waits(-1, 0), 0);
+        due("new: nobody waits, of any worth", x.waits(-1, -5), 0);
+        due("new: nobody waits still", x.count(9), 0);
         due("new: order 0", x.order(0), 0);
         due("new: order 1", x.order(1), -2);
-        due("new: side penny", x.side(0, 0), 0);
-        due("new: side word", x.side(1, 1), -1);
+        for (int what = -1; what <= 4; what++) {
+            due("new: side(0, " + what + ")", x.side(0, what), -1);
+            due("new: side(1, " + what + ")", x.side(1, what), -1);
+        }
         due("new: back", x.back(0), -1);
         due("NONE", LastWords.NONE, -1);
     }
