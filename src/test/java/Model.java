@@ -70,6 +70,14 @@ final class Model {
     private long x = 0;
     private final Object[][] images = new Object[4][];
 
+    /** One with a corner. */
+    static Model at(String corner) {
+        Model model = new Model();
+        model.tape.append(corner);
+        model.corner();
+        return model;
+    }
+
     // ---- texts ----
 
     private String text;

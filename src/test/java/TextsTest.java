@@ -109,62 +109,56 @@ public final class TextsTest {
         due("word first, tune last", a.corner("word 1;tune 1 1"), 1);
     }
 
-    private static void cornerFault(String text, int place, int kind) {
-        Asker a = new Asker();
-        due("corner <" + text + ">", a.corner(text), Asker.fault(place, kind));
-        due("no corner of <" + text + ">", a.words.count(0), 0);
-    }
-
     private static void cornerFaults() {
-        cornerFault("", 0, 0);
-        cornerFault("   ", 3, 0);
-        cornerFault("tune", 4, 0);
-        cornerFault("tune  ", 6, 0);
-        cornerFault("tune 1", 6, 0);
-        cornerFault("tune 1 1", 8, 0);
-        cornerFault("tune 1 1  ", 10, 0);
-        cornerFault("word 1", 6, 0);
-        cornerFault("again 1", 7, 0);
-        cornerFault("tune 0 1", 5, 1);
-        cornerFault("tune 10 1", 5, 1);
-        cornerFault("tune 11", 5, 1);
-        cornerFault("tune 1 0", 7, 1);
-        cornerFault("tune 1 9", 7, 1);
-        cornerFault("tune 000001 1", 5, 1);
-        cornerFault("tune 1 1 1", 9, 0);
-        cornerFault("tune 1 1;", 9, 0);
-        cornerFault("tune 1 1;;", 9, 0);
-        cornerFault("; tune 1 1", 0, 0);
-        cornerFault("tunes 1 1", 0, 0);
-        cornerFault("tun 1 1", 0, 0);
-        cornerFault("tunez 1 1", 0, 0);
-        cornerFault("tunea 1 1", 0, 0);
-        cornerFault("tune{1 1", 4, 0);
-        cornerFault("tune`1 1", 4, 0);
-        cornerFault(" Tune 1 1", 1, 0);
-        cornerFault("tune x 1", 5, 0);
-        cornerFault("tune -1 1", 5, 0);
-        cornerFault("tune 1,1", 6, 0);
-        cornerFault("tune\t1 1", 4, 0);
-        cornerFault("123456", 0, 0);
-        cornerFault("word 0", 5, 1);
-        cornerFault("word 10", 5, 1);
-        cornerFault("word 1 word 1", 7, 0);
-        cornerFault("purse 2 1", 6, 1);
-        cornerFault("purse 0 8", 8, 1);
-        cornerFault("purse 0", 7, 0);
-        cornerFault("again 10", 6, 1);
-        cornerFault("again 1;again 1", 8, 4);
-        cornerFault("again 0;again", 8, 4);
-        cornerFault(times(4, "word 1;") + "word", 28, 4);
-        cornerFault(times(4, "tune 1 1;") + " tune x", 37, 4);
-        cornerFault(times(16, "purse 0 1;") + "purse", 160, 4);
-        cornerFault(times(16, "purse 0 1;") + "purses", 160, 0);
-        cornerFault(times(16, "purse 0 1;") + ";", 160, 0);
-        cornerFault(times(16, "purse 0 1;"), 160, 0);
-        cornerFault("tune 1 1;word 1" + (char) 0, 15, 0);
-        cornerFault("say 1", 0, 0);
-        cornerFault("tune 1 1" + times(392, " "), 400, 0);
+        Asker.cornerFault("", 0, 0);
+        Asker.cornerFault("   ", 3, 0);
+        Asker.cornerFault("tune", 4, 0);
+        Asker.cornerFault("tune  ", 6, 0);
+        Asker.cornerFault("tune 1", 6, 0);
+        Asker.cornerFault("tune 1 1", 8, 0);
+        Asker.cornerFault("tune 1 1  ", 10, 0);
+        Asker.cornerFault("word 1", 6, 0);
+        Asker.cornerFault("again 1", 7, 0);
+        Asker.cornerFault("tune 0 1", 5, 1);
+        Asker.cornerFault("tune 10 1", 5, 1);
+        Asker.cornerFault("tune 11", 5, 1);
+        Asker.cornerFault("tune 1 0", 7, 1);
+        Asker.cornerFault("tune 1 9", 7, 1);
+        Asker.cornerFault("tune 000001 1", 5, 1);
+        Asker.cornerFault("tune 1 1 1", 9, 0);
+        Asker.cornerFault("tune 1 1;", 9, 0);
+        Asker.cornerFault("tune 1 1;;", 9, 0);
+        Asker.cornerFault("; tune 1 1", 0, 0);
+        Asker.cornerFault("tunes 1 1", 0, 0);
+        Asker.cornerFault("tun 1 1", 0, 0);
+        Asker.cornerFault("tunez 1 1", 0, 0);
+        Asker.cornerFault("tunea 1 1", 0, 0);
+        Asker.cornerFault("tune{1 1", 4, 0);
+        Asker.cornerFault("tune`1 1", 4, 0);
+        Asker.cornerFault(" Tune 1 1", 1, 0);
+        Asker.cornerFault("tune x 1", 5, 0);
+        Asker.cornerFault("tune -1 1", 5, 0);
+        Asker.cornerFault("tune 1,1", 6, 0);
+        Asker.cornerFault("tune\t1 1", 4, 0);
+        Asker.cornerFault("123456", 0, 0);
+        Asker.cornerFault("word 0", 5, 1);
+        Asker.cornerFault("word 10", 5, 1);
+        Asker.cornerFault("word 1 word 1", 7, 0);
+        Asker.cornerFault("purse 2 1", 6, 1);
+        Asker.cornerFault("purse 0 8", 8, 1);
+        Asker.cornerFault("purse 0", 7, 0);
+        Asker.cornerFault("again 10", 6, 1);
+        Asker.cornerFault("again 1;again 1", 8, 4);
+        Asker.cornerFault("again 0;again", 8, 4);
+        Asker.cornerFault(times(4, "word 1;") + "word", 28, 4);
+        Asker.cornerFault(times(4, "tune 1 1;") + " tune x", 37, 4);
+        Asker.cornerFault(times(16, "purse 0 1;") + "purse", 160, 4);
+        Asker.cornerFault(times(16, "purse 0 1;") + "purses", 160, 0);
+        Asker.cornerFault(times(16, "purse 0 1;") + ";", 160, 0);
+        Asker.cornerFault(times(16, "purse 0 1;"), 160, 0);
+        Asker.cornerFault("tune 1 1;word 1" + (char) 0, 15, 0);
+        Asker.cornerFault("say 1", 0, 0);
+        Asker.cornerFault("tune 1 1" + times(392, " "), 400, 0);
     }
 
     private static void cornerReplaces() {
@@ -217,57 +211,51 @@ public final class TextsTest {
         due("six", a.words.count(2), 6);
     }
 
-    private static void ruleFault(String text, int place, int kind) {
-        Asker a = new Asker();
-        due("rule <" + text + ">", a.rule(text), Asker.fault(place, kind));
-        due("no rule of <" + text + ">", a.words.count(2), 0);
-    }
-
     private static void ruleFaults() {
-        ruleFault("", 0, 0);
-        ruleFault("  ", 2, 0);
-        ruleFault("say", 3, 0);
-        ruleFault("say 4", 4, 1);
-        ruleFault("say 000000", 4, 1);
-        ruleFault("say x", 4, 0);
-        ruleFault("say 1 2", 6, 0);
-        ruleFault("say 1 if", 8, 0);
-        ruleFault("say 1 iff 1=1", 6, 0);
-        ruleFault("throw if", 8, 0);
-        ruleFault("throws", 0, 0);
-        ruleFault("throw 1", 6, 0);
-        ruleFault("still 1", 6, 0);
-        ruleFault("say 1;", 6, 0);
-        ruleFault("still if x", 9, 0);
-        ruleFault("still if or", 9, 0);
-        ruleFault("still if not", 12, 0);
-        ruleFault("still if 1", 10, 0);
-        ruleFault("still if 1 and", 11, 0);
-        ruleFault("still if 1<", 11, 0);
-        ruleFault("still if 1<2<3", 12, 0);
-        ruleFault("still if 1< =2", 12, 0);
-        ruleFault("still if 1=<2", 11, 0);
-        ruleFault("still if 1==2", 11, 0);
-        ruleFault("still if 1!2", 10, 0);
-        ruleFault("still if -1<2", 9, 0);
-        ruleFault("still if 1+<2", 11, 0);
-        ruleFault("still if 1+-2<2", 11, 0);
-        ruleFault("still if 1 2<2", 11, 0);
-        ruleFault("still if 1<2 2", 13, 0);
-        ruleFault("still if 123456<2", 9, 1);
-        ruleFault("still if [1<2", 13, 0);
-        ruleFault("still if [1]<2", 11, 0);
-        ruleFault("still if []", 10, 0);
-        ruleFault("throw if left = 1]", 17, 0);
-        ruleFault("still if 1<2 or", 15, 0);
-        ruleFault("still if 1<2 andleft<1", 13, 0);
-        ruleFault("still if 1<2 if 1<2", 13, 0);
-        ruleFault("still if lefts<2", 9, 0);
-        ruleFault("still if (1<2)", 9, 0);
-        ruleFault(times(12, "still;") + "still if", 72, 4);
-        ruleFault(times(12, "still;") + "stil", 72, 0);
-        ruleFault(times(12, "still;"), 72, 0);
-        ruleFault("tune 1 1", 0, 0);
+        Asker.ruleFault("", 0, 0);
+        Asker.ruleFault("  ", 2, 0);
+        Asker.ruleFault("say", 3, 0);
+        Asker.ruleFault("say 4", 4, 1);
+        Asker.ruleFault("say 000000", 4, 1);
+        Asker.ruleFault("say x", 4, 0);
+        Asker.ruleFault("say 1 2", 6, 0);
+        Asker.ruleFault("say 1 if", 8, 0);
+        Asker.ruleFault("say 1 iff 1=1", 6, 0);
+        Asker.ruleFault("throw if", 8, 0);
+        Asker.ruleFault("throws", 0, 0);
+        Asker.ruleFault("throw 1", 6, 0);
+        Asker.ruleFault("still 1", 6, 0);
+        Asker.ruleFault("say 1;", 6, 0);
+        Asker.ruleFault("still if x", 9, 0);
+        Asker.ruleFault("still if or", 9, 0);
+        Asker.ruleFault("still if not", 12, 0);
+        Asker.ruleFault("still if 1", 10, 0);
+        Asker.ruleFault("still if 1 and", 11, 0);
+        Asker.ruleFault("still if 1<", 11, 0);
+        Asker.ruleFault("still if 1<2<3", 12, 0);
+        Asker.ruleFault("still if 1< =2", 12, 0);
+        Asker.ruleFault("still if 1=<2", 11, 0);
+        Asker.ruleFault("still if 1==2", 11, 0);
+        Asker.ruleFault("still if 1!2", 10, 0);
+        Asker.ruleFault("still if -1<2", 9, 0);
+        Asker.ruleFault("still if 1+<2", 11, 0);
+        Asker.ruleFault("still if 1+-2<2", 11, 0);
+        Asker.ruleFault("still if 1 2<2", 11, 0);
+        Asker.ruleFault("still if 1<2 2", 13, 0);
+        Asker.ruleFault("still if 123456<2", 9, 1);
+        Asker.ruleFault("still if [1<2", 13, 0);
+        Asker.ruleFault("still if [1]<2", 11, 0);
+        Asker.ruleFault("still if []", 10, 0);
+        Asker.ruleFault("throw if left = 1]", 17, 0);
+        Asker.ruleFault("still if 1<2 or", 15, 0);
+        Asker.ruleFault("still if 1<2 andleft<1", 13, 0);
+        Asker.ruleFault("still if 1<2 if 1<2", 13, 0);
+        Asker.ruleFault("still if lefts<2", 9, 0);
+        Asker.ruleFault("still if (1<2)", 9, 0);
+        Asker.ruleFault(times(12, "still;") + "still if", 72, 4);
+        Asker.ruleFault(times(12, "still;") + "stil", 72, 0);
+        Asker.ruleFault(times(12, "still;"), 72, 0);
+        Asker.ruleFault("tune 1 1", 0, 0);
     }
 
     private static void ruleDepthAndSize() {
@@ -275,26 +263,26 @@ public final class TextsTest {
         due("ten deep", a.rule("still if " + times(10, "[") + "1<2" + times(10, "]")), 0);
         due("ten nots", a.rule("still if " + times(10, "not ") + "1<2"), 1);
         due("five of each, twice", a.rule("still if " + times(5, "[not ") + "1<2" + times(5, "]") + " or " + times(5, "not[") + "1<2" + times(5, "]")), 2);
-        ruleFault("still if " + times(11, "[") + "1", 19, 2);
-        ruleFault("still if " + times(11, "not "), 49, 2);
-        ruleFault("still if " + times(5, "[not ") + "not 1<2", 34, 2);
-        ruleFault("still if " + times(5, "[not ") + "[1<2", 34, 2);
+        Asker.ruleFault("still if " + times(11, "[") + "1", 19, 2);
+        Asker.ruleFault("still if " + times(11, "not "), 49, 2);
+        Asker.ruleFault("still if " + times(5, "[not ") + "not 1<2", 34, 2);
+        Asker.ruleFault("still if " + times(5, "[not ") + "[1<2", 34, 2);
         // 20 facts of two values and a sign are 60.
         String sixty = "still if 1<2" + times(19, " or 1<2");
         due("sixty", a.rule(sixty), 3);
-        ruleFault(sixty + " or x", sixty.length() + 4, 0);
-        ruleFault(sixty + " or 1", sixty.length() + 4, 3);
-        ruleFault(sixty + " or 123456", sixty.length() + 4, 1);
-        ruleFault(sixty + " or left", sixty.length() + 4, 3);
-        ruleFault(sixty + ";throw if 7", sixty.length() + 10, 3);
-        ruleFault(sixty + ";say 7", sixty.length() + 5, 1);
+        Asker.ruleFault(sixty + " or x", sixty.length() + 4, 0);
+        Asker.ruleFault(sixty + " or 1", sixty.length() + 4, 3);
+        Asker.ruleFault(sixty + " or 123456", sixty.length() + 4, 1);
+        Asker.ruleFault(sixty + " or left", sixty.length() + 4, 3);
+        Asker.ruleFault(sixty + ";throw if 7", sixty.length() + 10, 3);
+        Asker.ruleFault(sixty + ";say 7", sixty.length() + 5, 1);
         due("a word said is no value", a.rule(sixty + ";say 1;throw"), 4);
         // 60 values and then the sign.
         String values = "still if 1" + times(59, "+1");
-        ruleFault(values + "<1", values.length(), 3);
-        ruleFault(values + " >=1", values.length() + 1, 3);
-        ruleFault(values + "+1", values.length() + 1, 3);
-        ruleFault("still if 1" + times(58, "+1") + "<1", values.length() - 1, 3);
+        Asker.ruleFault(values + "<1", values.length(), 3);
+        Asker.ruleFault(values + " >=1", values.length() + 1, 3);
+        Asker.ruleFault(values + "+1", values.length() + 1, 3);
+        Asker.ruleFault("still if 1" + times(58, "+1") + "<1", values.length() - 1, 3);
         due("58 and one", a.rule("still if 1" + times(57, "+1") + "<1"), 5);
     }
 }
