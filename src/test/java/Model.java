@@ -1,7 +1,6 @@
 import java.util.ArrayList;
-import java.util.HashMap;
+import java.util.Arrays;
 import java.util.List;
-import java.util.Map;
 
 /**
  * The document once more, as slow and as literal as it goes: who spoke last is kept, to be STILL is searched
@@ -69,6 +68,10 @@ final class Model {
     private List<int[]> waiting = new ArrayList<>();
     private long x = 0;
     private final Object[][] images = new Object[4][];
+    /** Who can have it, of the quarrels that were asked of last: all of one corner and one verse. */
+    private final byte[] known = new byte[1 << 23];
+    private Corner knownOf = null;
+    private int knownVerse = 0;
 
     /** One with a corner. */
     static Model at(String corner) {
@@ -415,26 +418,36 @@ final class Model {
     }
 
     /** Who can have it. */
-    private int best(Q s, Map<List<Integer>, Integer> known) {
+    private int best(Q s) {
         if (!s.goes) {
             return s.winner;
         }
-        List<Integer> key = List.of(s.left, s.turn, s.last[0], s.last[1], s.purse[0], s.purse[1], s.spoke, s.verse);
-        Integer found = known.get(key);
-        if (found == null) {
+        if (knownOf != corner || knownVerse != s.verse) {
+            Arrays.fill(known, (byte) -1);
+            knownOf = corner;
+            knownVerse = s.verse;
+        }
+        int key = keyOf(s);
+        int found = known[key];
+        if (found < 0) {
             found = 1 - s.turn;
             for (int deed = 0; deed <= STILL && found != s.turn; deed++) {
-                if (may(s, deed) && best(after(s, deed), known) == s.turn) {
+                if (may(s, deed) && best(after(s, deed)) == s.turn) {
                     found = s.turn;
                 }
             }
-            known.put(key, found);
+            known[key] = (byte) found;
         }
         return found;
     }
 
-    private int best(Q s) {
-        return best(s, new HashMap<>());
+    /** All that what can still come depends on, but the corner and the verse, in one number of 23 bits. */
+    private static int keyOf(Q s) {
+        int key = s.left;
+        for (int side = 0; side < 2; side++) {
+            key = key << 6 | s.last[side] + 1 << 3 | s.purse[side];
+        }
+        return key << 3 | s.turn << 2 | s.spoke + 1;
     }
 
     private Q with(Q s, int side, int pennies) {
